@@ -315,7 +315,9 @@ public final class ModelTests {
     }
 
     private void run() {
-        writeAndLoad();
+        for (int i = 0; i < 8 && museum.report(3) == 0; i++) {
+            writeAndLoad();
+        }
         for (int i = 0; i < CALLS && !differs; i++) {
             int which = below(100);
             if (which < 2) {

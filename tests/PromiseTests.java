@@ -617,6 +617,31 @@ public final class PromiseTests {
         Check.answers("32 the greatest mass", 998, () -> z.massFor(0, 0, 1000, 1));
         z.setSafe(0, 500, 1000);
         Check.fails("32 1000 would be needed", Check.NSEE, () -> z.massFor(0, 0, 1000, 1));
+        MuseumCases w = Check.museum("museum 0 0;kind k 1000 point 0 0 point 1000 1000;case c 1000 0 0 safe 999 1000;");
+        Check.answers("32 a mass of 999", 999, () -> w.massFor(0, 0, 1000, 1));
+        p32MassForInItsHour();
+    }
+
+    /** The hours of a trial are those that come next, with the groups that are announced. */
+    private static void p32MassForInItsHour() {
+        String text = "museum 0 1;season 0 500;visitors 3 3 500;kind k 1000 point 0 0 point 1000 1000;case c 1000 1000 500 safe 0 500;cassette c k 1 500;";
+        MuseumCases x = Check.museum(text);
+        Check.answers("32 three hours in which nobody comes", 1, () -> x.massFor(0, 0, 0, 3));
+        Check.answers("33 three hours in which nobody comes", 0, () -> x.bestFor(0, 3));
+        // with 1000 in the air the old one takes 1; 999 has 499 by then and takes 499 more, 998 takes 498
+        Check.answers("32 the fourth hour fills the air", 999, () -> x.massFor(0, 0, 0, 4));
+        x.advance(3);
+        // a mass of 500 takes 499 of the 999 that are left
+        Check.answers("32 that hour comes next", 500, () -> x.massFor(0, 0, 0, 1));
+        x.advance(2);
+        Check.answers("32 that hour has gone", 1, () -> x.massFor(0, 0, 0, 1));
+        x.announce(4);
+        // the room has 504, and with 504 in the air 8 * 504 / 1000 units are 4
+        Check.answersAndStays("32 a group comes", 8, x, () -> x.massFor(0, 0, 0, 1));
+        x.exchange(0, 500);
+        x.add(0, 0, 8, 500);
+        // only one that is conditioned for 0 takes the 4 units again
+        Check.answersAndStays("33 a group comes", 0, x, () -> x.bestFor(2, 1));
     }
 
     /** The answer by trying with add() on fresh museums. */

@@ -115,9 +115,12 @@ public final class TextTests {
     private static void p04EverythingBeginsAnew() {
         MuseumCases x = Check.museum(BASE);
         x.announce(5);
-        x.advance(30);
+        x.advance(36);
         x.announce(5);
-        x.add(1, 0, 7, 7);
+        x.add(1, 0, 700, 7);
+        x.add(0, 1, 700, 700);
+        x.remove(1);
+        x.remove(2);
         x.setLeak(0, 0);
         x.setSafe(0, 0, 0);
         x.save(0);
@@ -133,6 +136,47 @@ public final class TextTests {
         Check.answers("4 no visitors any more", 0, () -> x.visitors(11));
         Check.answers("4 no seasons any more", 500, () -> x.setPoint(0));
         Check.fails("4 no kinds any more", Check.IOOBE, () -> x.content(0, 0));
+        Check.write(x, Check.bytes(BASE));
+        x.load();
+        x.advance(12);
+        // ten hours at 400, then 405 and 412
+        Check.answersDouble("4 the mean begins anew", 4817.0 / 12.0, () -> x.mean(0));
+    }
+
+    /** More than two texts, because what one of them wrote could show through a later one. */
+    private static void p04TextAfterText() {
+        MuseumCases x = new MuseumCases();
+        for (int i = 0; i < 3; i++) {
+            Check.write(x, Check.bytes("museum 900 9;" + many(12, "season % 1;") + "visitors 0 23 9;kind z 9 " + many(6, "point % 90% ")
+                + ";kind y 9 point 0 1 point 1 2;case z 500 5 500 safe 100 200;case y 900 5 5;" + "cassette z z 99 99;".repeat(5)));
+            Check.answers("4 a great text", 2, () -> x.load());
+        }
+        x.save(0);
+        for (int i = 0; i < 3; i++) {
+            Check.write(x, Check.bytes("museum 0 0;season 7 77;kind az 0 point 0 1 point 1 2;case az 100 0 0;cassette az az 999 999;"));
+            Check.answers("4 a small text", 1, () -> x.load());
+            Check.same("4 its state", Check.state(x), " 0 0 0 1 1 1 1 0 77 0 100 0 0 0 1 1 0 1000 0 -1 -1 1 0 0 0 1 0 0 999 1 1000");
+            Check.answers("4 its set points", 77, () -> x.setPoint(12));
+            Check.answers("4 its visitors", 0, () -> x.visitors(0));
+            Check.answers("4 its isotherm", 2, () -> x.content(0, 500));
+            Check.fails("4 nothing saved", Check.NSEE, () -> Check.restore(x, 0));
+        }
+    }
+
+    /** What stood in the buffer behind the end of the text does not belong to it. */
+    private static void cutTexts() {
+        cut("museum 1234 0;", 10);
+        cut("museumx 0 0;", 6);
+        cut("museum 0 0;", 10);
+        cut("museum 0 0;case a 100 0 0;", 15);
+    }
+
+    private static void cut(String text, int length) {
+        MuseumCases x = new MuseumCases();
+        Check.write(x, Check.bytes(text));
+        x.truncate(length);
+        Check.fails("5 load of a cut text", Check.IAE, () -> x.load());
+        Check.same("5 the end of \"" + text + "\" at " + length, x.errorCode() + " at " + x.errorPosition(), "1 at " + length);
     }
 
     private static void code1InMuseumAndSeasons() {
@@ -146,6 +190,8 @@ public final class TextTests {
         error(1, "museum  ^");
         error(1, "museum 0^;");
         error(1, "museum 0 0^");
+        error(1, "museum 0 0^!");
+        error(1, "museum 0 0^:");
         error(1, "museum 0 0;^;");
         error(1, "museum ^00000 0;");
         error(1, "museum 0 ^12345;");
@@ -220,6 +266,7 @@ public final class TextTests {
         error(3, KIND_K + "kind ^k 0 point 0 0 point 1 0;");
         error(3, KIND_K + "kind ^k ? point 0 0 point 1 0;");
         error(3, "museum 0 0;case a 100 0 0;case b 100 0 0;case ^a 100 0 0;");
+        error(3, "museum 0 0;case azza 100 0 0;case azz 100 0 0;case zza 100 0 0;case ^azza 100 0 0;");
         error(3, "museum 0 0;cassette ^a k 1 0;");
         error(3, "museum 0 0;case a 100 0 0;cassette ^b k 1 0;");
         error(3, "museum 0 0;case a 100 0 0;cassette a ^k 1 0;");
@@ -249,6 +296,7 @@ public final class TextTests {
         code2();
         code3();
         code4();
+        cutTexts();
         MuseumCases x = new MuseumCases();
         Check.answers("5 no call yet", 0, () -> x.errorCode());
         Check.answers("6 no call yet", -1, () -> x.errorPosition());
@@ -275,6 +323,7 @@ public final class TextTests {
         p03Truncate();
         p04Load();
         p04EverythingBeginsAnew();
+        p04TextAfterText();
         p05p06ErrorCodeAndPosition();
         Check.end("TextTests");
     }
